@@ -57,7 +57,8 @@ public final class DrownedLand {
     private static final int WORD_RIVER = 4;
     private static final int WORD_COAST = 5;
     private static final int WORD_WIND = 6;
-    private static final int WORDS = 7;
+    /** One more than there are, so that the three bits of a step are always a place in the row. */
+    private static final int WORDS = 8;
 
     private final Reader reader = new Reader();
     private final Told told = new Told();
@@ -700,7 +701,7 @@ public final class DrownedLand {
     private void layOut(View at) {
         for (int p = 0; p < told.placeCount; p++) {
             reckonLeft(told.places[p], at);
-            ways.weigh(p, MILLION * ratio.upper / ratio.lower, ruling.catching);
+            ways.weigh(p, ratio.cutTo(MILLION), ruling.catching);
         }
     }
 
@@ -1147,7 +1148,7 @@ public final class DrownedLand {
                 } else if (sign == OR) {
                     stack = stack >>> 1 | stack & 1;
                 } else {
-                    boolean so = compares(words[step >> 4 & 15], sign, step >> 8);
+                    boolean so = compares(words[step >> 4 & WORDS - 1], sign, step >> 8);
                     stack = stack << 1 | (so ? 1 : 0);
                 }
             }
@@ -1512,13 +1513,14 @@ public final class DrownedLand {
         }
 
         private int countHigherRound(int cell) {
-            int x = cell % SIDE;
-            int y = cell / SIDE;
+            int west = cell % SIDE == 0 ? 0 : 1;
+            int east = cell % SIDE == SIDE - 1 ? 0 : 1;
+            int own = middle[cell];
             int higher = 0;
-            for (int v = Math.max(0, y - 1); v <= Math.min(SIDE - 1, y + 1); v++) {
-                for (int u = Math.max(0, x - 1); u <= Math.min(SIDE - 1, x + 1); u++) {
-                    if (middle[SIDE * v + u] > middle[cell]) {
-                        higher++;
+            for (int row = cell - SIDE; row <= cell + SIDE; row += SIDE) {
+                if (isCell(row)) {
+                    for (int c = row - west; c <= row + east; c++) {
+                        higher += middle[c] > own ? 1 : 0;
                     }
                 }
             }
@@ -1871,6 +1873,11 @@ public final class DrownedLand {
 
         long part(int what) {
             return what == 0 ? upper : lower;
+        }
+
+        /** How many of so many parts it is, cut. */
+        long cutTo(long parts) {
+            return lower == 0 ? 0 : parts * upper / lower;
         }
 
         /**

@@ -12,6 +12,7 @@ public final class GroundTest {
         goingUnder();
         anAge();
         words();
+        kinds();
         islands();
         fords();
         wrong();
@@ -204,6 +205,27 @@ public final class GroundTest {
         Check.due("the first that holds", x.asked(17, 51, 7), 9);
     }
 
+    private static void kinds() {
+        DrownedLand x = Check.under("sea 10 40;sea 20 40 to 42;");
+        flat(x, 60, 60);
+        Check.due("height 20", x.asked(100, 10, 8), 0);
+        Check.due("height 19", x.asked(100, 20, 8), 8);
+        x.sound(0, 30, 30);
+        Check.due("coast 2", x.asked(2, 10, 8), 2);
+        Check.due("coast 3", x.asked(3, 10, 8), 0);
+        x.sound(117, 70, 70);
+        x.sound(116, 70, 70);
+        x.sound(115, 70, 70);
+        Check.due("wind 3", x.asked(100, 10, 8), 0);
+        x.sound(83, 70, 70);
+        Check.due("wind 4", x.asked(100, 10, 8), 4);
+        for (int c = 0; c < 256; c++) {
+            x.sound(c, 60 - c % 16, 60 - c % 16);
+        }
+        Check.due("river 9", x.asked(88, 0, 8), 0);
+        Check.due("river 10", x.asked(89, 0, 8), 1);
+    }
+
     private static void islands() {
         DrownedLand x = Check.under("sea 10 40;sea 20 60;sea 30 40;sea 60 99;");
         flat(x, 30, 30);
@@ -231,6 +253,9 @@ public final class GroundTest {
         Check.law(x, "sea 10 40;sea 20 60;sea 30 40;sea 40 99;");
         Check.due("of several rows the first", x.alone(1, 4, 1), 10);
         Check.due("long", x.alone(1, 4, 0), 10);
+        x.sound(18, 30, 30);
+        x.sound(2, 30, 30);
+        Check.due("sounded just now", x.alone(1, 2, 1), 10);
     }
 
     private static void fords() {

@@ -109,6 +109,13 @@ public final class LawTest {
         fault("sea 5 7 9;", 8);
         fault("sea 5 7;;", 8);
         fault("sea to 7;", 4);
+        fault("sea;", 3);
+        fault("sea 5;", 5);
+        fault("sea 5 7 to;", 10);
+        fault("carry;", 5);
+        fault("catch;", 5);
+        fault("live;", 4);
+        fault("live 5 if;", 9);
         fault("carry 5;", 6);
         fault("carry sea 5;", 6);
         fault("carry fished;", 12);
@@ -188,6 +195,20 @@ public final class LawTest {
         fault("l ive 5;", 0);
         fault("live 5;sea 1 5,", 14);
         fault("catch 1 0;", 8);
+        fault("livez 5;", 0);
+        fault("live 5 if zx>1;", 10);
+        cutBehind("live 5 iffoo", 9, 9);
+        cutBehind("catch 55;", 7, 7);
+        cutBehind("sea 0 5;catchy", 13, 13);
+        cutBehind("sea 0 5;catch", 12, 8);
+    }
+
+    /** A token goes no further than the first n bytes do. */
+    private static void cutBehind(String text, int n, int place) {
+        DrownedLand x = new DrownedLand();
+        Check.feed(x, Check.bytes(text));
+        Check.due(n + " bytes of \"" + text + "\"", x.law(n), -1);
+        Check.due(n + " bytes of \"" + text + "\" fault", x.fault(), place);
     }
 
     private static void opens() {

@@ -179,6 +179,9 @@ public final class PeopleTest {
         Check.due("no such FIND", x.carried(5, 0), -1);
         Check.due("no such FIND", x.carried(-1, 0), -1);
         Check.due("what 2", x.carried(0, 2), -1);
+        Check.law(x, "carry fished 50;live 1;");
+        Check.due("all alike: as near as far", x.carried(0, 0), 1);
+        Check.due("all alike: as near as far", x.carried(0, 1), 2);
         Check.law(x, "carry fished 100;");
         Check.due("nobody at all", x.carried(0, 0), 0);
         Check.due("nobody at all", x.carried(0, 1), 1);
@@ -261,6 +264,15 @@ public final class PeopleTest {
                 Check.due("CELL 36", x.world(seed, 0, camps, 36, 20), hits(seed, camps, false));
                 Check.due("CELL 1", x.world(seed, 0, camps, 1, 20), hits(seed, camps, true));
             }
+        }
+        for (int seed = 0; seed < 20; seed++) {
+            long z = seed * 6364136223846793005L + 1442695040888963407L;
+            z = z * 6364136223846793005L + 1442695040888963407L;
+            int drawn = (int) ((z >>> 33) % 100);
+            DrownedLand y = Check.under("live 1 if x=1 and y=0;catch 10;keep " + drawn + ";");
+            Check.due("KEEP as much as is drawn", y.world(seed, 0, 1, 1, 9), 0);
+            Check.law(y, "live 1 if x=1 and y=0;catch 10;keep " + (drawn + 1) + ";");
+            Check.due("KEEP one more", y.world(seed, 0, 1, 1, 9), 9);
         }
         Check.due("a CELL without LIVE", x.world(7, 0, 200, 2, 99), 0);
         Check.due("no BUCKETS", x.world(7, 0, 200, 36, 0), 0);

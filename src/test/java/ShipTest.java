@@ -97,6 +97,7 @@ public final class ShipTest {
         Check.due("a half", x.ship(1, 0, 0), 500000);
         x.dry(0, true);
         Check.due("after dry", x.ship(1, 0, 0), 666666);
+        Check.due("of two BUCKETS one PLACE", x.ship(2, 0, 0), 666666);
         x.place(1);
         // 333334 * 333334 by 1000000 is 111111.5
         Check.due("after place", x.ship(2, 0, 0), 888889);

@@ -83,6 +83,8 @@ public final class ToldTest {
         Check.due("on to the second", x.restore(1), true);
         Check.due("FINDS", x.found(1, 0), 7);
         Check.due("FIND's HOW", x.found(1, 1), 2);
+        Check.due("FIND's first AGE", x.found(1, 2), 4);
+        Check.due("FIND's last AGE", x.found(1, 3), 5);
         Check.due("low", x.cell(1, 0), 5);
         Check.due("PLACE", x.cell(10, 9), 1);
         Check.due("mud's LETTER", x.levels(99, 0), 99);

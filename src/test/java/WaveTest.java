@@ -93,6 +93,14 @@ public final class WaveTest {
         x.mud(4, false);
         Check.due("dry at coast 4: up to 40", x.height(10, 5, 1), 40);
         Check.due("so many", x.height(10, 5, 2), 10);
+        x.mud(3, true);
+        x.sound(4, 46, 46);
+        Check.due("36 at least", x.height(10, 5, 0), 36);
+        Check.due("36 at most", x.height(10, 5, 1), 36);
+        Check.due("one height", x.height(10, 5, 2), 1);
+        x.mud(3, false);
+        x.sound(4, 50, 50);
+        x.sound(3, 99, 99);
         Check.due("without a DROP both stand alike", x.height(10, 0, 0), -1);
         Check.due("none", x.height(10, 0, 1), -1);
         Check.due("none", x.height(10, 0, 2), 0);

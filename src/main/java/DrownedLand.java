@@ -63,8 +63,8 @@ public final class DrownedLand {
     private final Reader reader = new Reader();
     private final Told told = new Told();
     private final Told[] images = new Told[MOST_IMAGES];
-    private final Ground ground = new Ground();
-    private final View view = new View(ground);
+    private final View view = new View();
+    private final Ground ground = view.ground;
     private final Lives lives = new Lives();
     private final Flood flood = new Flood();
     private final Ways ways = new Ways();
@@ -207,7 +207,7 @@ public final class DrownedLand {
             return refuse(NO_ROOM);
         }
         int number = told.letterCount;
-        told.letterTree[number] = tree;
+        told.letterTree[number] = tree ? 1 : 0;
         told.letterHeight[number] = height;
         told.letterFrom[number] = from;
         told.letterTo[number] = to;
@@ -734,10 +734,11 @@ public final class DrownedLand {
         int least = 0;
         int greatest = TOP;
         for (int i = 0; i < told.letterCount; i++) {
-            if (told.letterTree[i] && told.letterFrom[i] >= age) {
+            boolean tree = told.letterTree[i] == 1;
+            if (tree && told.letterFrom[i] >= age) {
                 greatest = Math.min(greatest, told.letterHeight[i] - 1);
             }
-            if (!told.letterTree[i] && told.letterTo[i] <= age) {
+            if (!tree && told.letterTo[i] <= age) {
                 least = Math.max(least, told.letterHeight[i]);
             }
         }
@@ -764,9 +765,10 @@ public final class DrownedLand {
 
     private boolean letterFits(int i) {
         int height = told.letterHeight[i];
+        boolean tree = told.letterTree[i] == 1;
         for (int age = told.letterFrom[i]; age <= told.letterTo[i]; age++) {
-            boolean fits = told.letterTree[i] ? ruling.seaLow[age] < height : ruling.seaHigh[age] >= height;
-            if (fits) {
+            boolean well = tree ? ruling.seaLow[age] < height : ruling.seaHigh[age] >= height;
+            if (well) {
                 return true;
             }
         }
@@ -897,7 +899,7 @@ public final class DrownedLand {
     /** The first AGE of the span that an AGE lies in, with LIVE of all CELLS worked out for it. */
     private int spanKnown(int age) {
         int span = ruling.spanStart[age];
-        if (!lives.known[span]) {
+        if (lives.total[span] == NONE) {
             view.turnTo(ruling.bothLevels(span));
             lives.workOut(span, ruling, view);
         }
@@ -959,7 +961,7 @@ public final class DrownedLand {
         final int[] findFrom = new int[MOST_FINDS];
         final int[] findTo = new int[MOST_FINDS];
         final int[] places = new int[MOST_PLACES];
-        final boolean[] letterTree = new boolean[MOST_LETTERS];
+        final int[] letterTree = new int[MOST_LETTERS];
         final int[] letterHeight = new int[MOST_LETTERS];
         final int[] letterFrom = new int[MOST_LETTERS];
         final int[] letterTo = new int[MOST_LETTERS];
@@ -1050,8 +1052,10 @@ public final class DrownedLand {
             codeLength = 0;
             catching = 0;
             Arrays.fill(carrying, 0);
-            Arrays.fill(seaTold, false);
-            Arrays.fill(edge, false);
+            for (int age = 0; age < AGES; age++) {
+                seaTold[age] = false;
+                edge[age] = false;
+            }
         }
 
         void putSea(int age, int low, int high) {
@@ -1576,15 +1580,11 @@ public final class DrownedLand {
     private static final class View {
         final boolean[] land = new boolean[CELLS];
         final int[] coast = new int[CELLS];
-        private final Ground ground;
+        final Ground ground = new Ground();
         private final int[] queue = new int[CELLS];
         private final int[] words = new int[WORDS];
         private final int[] kinds = new int[KINDS];
         private int level = NONE;
-
-        View(Ground ground) {
-            this.ground = ground;
-        }
 
         void forget() {
             level = NONE;
@@ -1678,13 +1678,13 @@ public final class DrownedLand {
     private static final class Lives {
         static final int MOST_LIVE = 99;
 
-        final boolean[] known = new boolean[AGES];
+        /** By spans; NONE until it is worked out. */
         final int[] total = new int[AGES];
         private final byte[] rows = new byte[AGES * CELLS];
         private final int[] having = new int[MOST_LIVE + 1];
 
         void forget() {
-            Arrays.fill(known, false);
+            Arrays.fill(total, NONE);
         }
 
         void workOut(int span, Law law, View at) {
@@ -1695,7 +1695,6 @@ public final class DrownedLand {
                 sum += live;
             }
             total[span] = sum;
-            known[span] = true;
         }
 
         int of(int span, int cell) {

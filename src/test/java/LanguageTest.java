@@ -117,6 +117,11 @@ public final class LanguageTest {
         while (library.find()) {
             Check.due(library.group(), allowed.contains(library.group()), true);
         }
+        Matcher rows = Pattern.compile("boolean\\[\\] (\\w+)").matcher(code);
+        while (rows.find()) {
+            boolean used = Pattern.compile("(fill|arraycopy)\\([^;]*\\b" + rows.group(1) + "\\b").matcher(code).find();
+            Check.due("fill and copies are of numbers alone: " + rows.group(1), used, false);
+        }
         for (char c : source.toCharArray()) {
             if (c >= 127 || c < 32 && c != '\n') {
                 Check.due("plain signs alone", c, ' ');

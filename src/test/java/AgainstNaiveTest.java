@@ -2,12 +2,14 @@ import java.util.Random;
 
 /** The same calls, drawn by a fixed seed, on DrownedLand and on NaiveLand: each answer must be alike. */
 public final class AgainstNaiveTest {
-    private static final int RUNS = 60;
-    private static final int CALLS = 400;
+    private static final int RUNS = 240;
+
+    /** A text of 700 bytes told and the counts behind it: what one go of the drawing may take at most. */
+    private static final int DEAREST = 60;
 
     private final Random random;
     private final int run;
-    private final DrownedLand x = new DrownedLand();
+    private final Land x = new Land();
     private final NaiveLand y = new NaiveLand();
     private final int[] cells = new int[8];
     private final int[] ages = new int[5];
@@ -32,7 +34,7 @@ public final class AgainstNaiveTest {
             RandomLaw laws = new RandomLaw(random);
             byte[] law = laws.make(random.nextInt(i % 50 == 0 ? 44 : 6), 700);
             byte[] text = random.nextInt(8) == 0 ? law : laws.spoil(law);
-            DrownedLand x = new DrownedLand();
+            Land x = new Land();
             NaiveLaw naive = new NaiveLaw(text);
             Check.feed(x, text);
             String told = "law of \"" + new String(text, java.nio.charset.StandardCharsets.ISO_8859_1) + "\"";
@@ -72,7 +74,7 @@ public final class AgainstNaiveTest {
         }
         tellLaw(false);
         tellHeights(run % 5);
-        for (int i = 0; i < CALLS; i++) {
+        while (x.callsLeft() > DEAREST) {
             if (random.nextInt(3) == 0) {
                 tell();
             } else {
@@ -117,7 +119,8 @@ public final class AgainstNaiveTest {
                 default -> 0;
             };
             int high = Math.min(99, low + random.nextInt(12));
-            if (way != 4 || random.nextInt(10) == 0) {
+            // two of three CELLS, so that half of an object's 512 calls are left to draw
+            if (random.nextInt(way == 4 ? 10 : 3) > (way == 4 ? 8 : 0)) {
                 due("sound", x.sound(c, low, high) ? 1 : 0, y.sound(c, low, high) ? 1 : 0);
             }
         }

@@ -35,7 +35,7 @@ final class Check {
     }
 
     /** Feeds a text, filled up with blanks to whole feeds. */
-    static void feed(DrownedLand x, byte[] text) {
+    static void feed(Land x, byte[] text) {
         byte[] whole = Arrays.copyOf(text, (text.length + 19) / 20 * 20);
         Arrays.fill(whole, text.length, whole.length, (byte) 32);
         for (int i = 0; i < whole.length; i += 20) {
@@ -52,16 +52,16 @@ final class Check {
     }
 
     /** Tells a LAW as it stands in the text, answering what law() answers. */
-    static int law(DrownedLand x, String text) {
+    static int law(Land x, String text) {
         feed(x, bytes(text));
         return x.law(text.length());
     }
 
     /** A new object with this LAW. */
-    static DrownedLand under(String text) {
-        DrownedLand x = new DrownedLand();
+    static Land under(String text) {
+        Land x = new Land();
         if (law(x, text) < 0) {
-            due("law(\"" + text + "\") has a FAULT at", x.fault(), DrownedLand.NONE);
+            due("law(\"" + text + "\") has a FAULT at", x.fault(), Land.NONE);
         }
         return x;
     }

@@ -20,29 +20,28 @@ public final class GroundTest {
     }
 
     private static void newObject() {
-        DrownedLand x = new DrownedLand();
-        for (int c = 0; c < 256; c++) {
-            Check.due("low", x.cell(c, 0), 0);
-            Check.due("high", x.cell(c, 1), 99);
-            Check.due("SUNK", x.cell(c, 2), 0);
-            Check.due("BUCKETS", x.cell(c, 8), 0);
-            Check.due("PLACE", x.cell(c, 9), 0);
-            Check.due("MUD", x.cell(c, 10), -1);
+        int[] due = {0, 99, 0, -1, 1, 0, 0, 100, 0, 0, -1};
+        for (int what = 0; what <= 10; what++) {
+            Land each = new Land();
+            for (int c = 0; c < 256; c++) {
+                Check.due("cell(" + c + ", " + what + ")", each.cell(c, what), due[what]);
+            }
         }
+        Land x = new Land();
         for (int what = 0; what <= 15; what++) {
             Check.due("count " + what, x.count(what), 0);
         }
-        Check.due("NONE", DrownedLand.NONE, -1);
+        Check.due("NONE", Land.NONE, -1);
     }
 
-    static void flat(DrownedLand x, int low, int high) {
+    static void flat(Land x, int low, int high) {
         for (int c = 0; c < 256; c++) {
             x.sound(c, low, high);
         }
     }
 
     private static void sounding() {
-        DrownedLand x = new DrownedLand();
+        Land x = new Land();
         Check.due("0 to 0", x.sound(0, 0, 0), true);
         Check.due("99 to 99", x.sound(255, 99, 99), true);
         Check.due("low", x.cell(255, 0), 99);
@@ -60,7 +59,7 @@ public final class GroundTest {
     }
 
     private static void sinking() {
-        DrownedLand x = Check.under("sink 30 if x=1;");
+        Land x = Check.under("sink 30 if x=1;");
         x.sound(1, 60, 80);
         Check.due("low and SUNK", x.cell(1, 0), 90);
         Check.due("held to 99", x.cell(1, 1), 99);
@@ -72,7 +71,7 @@ public final class GroundTest {
     }
 
     private static void flowing() {
-        DrownedLand x = new DrownedLand();
+        Land x = new Land();
         flat(x, 50, 50);
         x.sound(34, 60, 60);
         x.sound(33, 40, 40);
@@ -96,6 +95,11 @@ public final class GroundTest {
         Check.due("CELLS with it", x.ends(34, 1), 5);
         Check.due("END of itself", x.ends(100, 0), 100);
         Check.due("alone", x.ends(100, 1), 1);
+        flowingToOne();
+    }
+
+    private static void flowingToOne() {
+        Land x = new Land();
         for (int c = 0; c < 256; c++) {
             x.sound(c, 99 - c % 16 - c / 16, 99 - c % 16 - c / 16);
         }
@@ -108,13 +112,14 @@ public final class GroundTest {
     }
 
     private static void sureRivers() {
-        DrownedLand x = new DrownedLand();
+        Land x = new Land();
         flat(x, 50, 60);
         x.sound(34, 70, 80);
         x.sound(35, 20, 50);
         Check.due("others' low like that high", x.cell(34, 5), 1);
         x.sound(35, 20, 51);
         Check.due("others' low below that high", x.cell(34, 5), 0);
+        x = new Land();
         flat(x, 70, 70);
         x.sound(34, 71, 90);
         x.sound(35, 10, 70);
@@ -130,7 +135,7 @@ public final class GroundTest {
     }
 
     private static void goingUnder() {
-        DrownedLand x = Check.under("sea 10 20 to 30;sea 20 40;sea 30 5;sink 10 if x=1;");
+        Land x = Check.under("sea 10 20 to 30;sea 20 40;sea 30 5;sink 10 if x=1;");
         x.sound(0, 30, 40);
         Check.due("first AGE", x.cell(0, 6), 10);
         Check.due("last AGE", x.cell(0, 7), 20);
@@ -146,7 +151,7 @@ public final class GroundTest {
     }
 
     private static void anAge() {
-        DrownedLand x = Check.under("sea 10 20 to 31;sea 20 30 to 40;");
+        Land x = Check.under("sea 10 20 to 31;sea 20 30 to 40;");
         flat(x, 30, 41);
         x.sound(0, 25, 26);
         x.sound(1, 26, 26);
@@ -177,7 +182,7 @@ public final class GroundTest {
     }
 
     private static void words() {
-        DrownedLand x = Check.under("sea 50 30;live 1 if x=0 and y=0;live 2 if age=50;live 3 if height=40;live 4 if river=2;"
+        Land x = Check.under("sea 50 30;live 1 if x=0 and y=0;live 2 if age=50;live 3 if height=40;live 4 if river=2;"
                 + "live 5 if coast=99 and age>97;live 6 if wind>2;fish 7 if coast=0 and height=0;fish 8 if age<50;"
                 + "keep 9 if age=51;keep 10 if x=1;");
         flat(x, 60, 60);
@@ -206,7 +211,7 @@ public final class GroundTest {
     }
 
     private static void kinds() {
-        DrownedLand x = Check.under("sea 10 40;sea 20 40 to 42;");
+        Land x = Check.under("sea 10 40;sea 20 40 to 42;");
         flat(x, 60, 60);
         Check.due("height 20", x.asked(100, 10, 8), 0);
         Check.due("height 19", x.asked(100, 20, 8), 8);
@@ -219,6 +224,7 @@ public final class GroundTest {
         Check.due("wind 3", x.asked(100, 10, 8), 0);
         x.sound(83, 70, 70);
         Check.due("wind 4", x.asked(100, 10, 8), 4);
+        x = new Land();
         for (int c = 0; c < 256; c++) {
             x.sound(c, 60 - c % 16, 60 - c % 16);
         }
@@ -227,7 +233,7 @@ public final class GroundTest {
     }
 
     private static void islands() {
-        DrownedLand x = Check.under("sea 10 40;sea 20 60;sea 30 40;sea 60 99;");
+        Land x = Check.under("sea 10 40;sea 20 60;sea 30 40;sea 60 99;");
         flat(x, 30, 30);
         x.sound(0, 70, 70);
         x.sound(1, 50, 50);
@@ -259,7 +265,7 @@ public final class GroundTest {
     }
 
     private static void fords() {
-        DrownedLand x = Check.under("sea 50 20;sea 60 59;");
+        Land x = Check.under("sea 50 20;sea 60 59;");
         flat(x, 60, 60);
         // a valley in the third column, from row 15 up to row 0
         for (int y = 0; y < 16; y++) {
@@ -283,11 +289,13 @@ public final class GroundTest {
         Check.due("banks that aren't LAND or have a river are none", x.ford(0, 40, -1), 2);
         x.sound(17, 20, 20);
         Check.due("CELL 18 without its west bank", x.ford(50, 40, -1), 1);
+        x = new Land();
         flat(x, 60, 60);
         for (int c = 0; c < 16; c++) {
             x.sound(32 + c, 20 + 2 * c, 20 + 2 * c);
         }
         Check.due("to the north and south", x.ford(0, 48, 0), 32);
+        x = new Land();
         flat(x, 60, 60);
         for (int c = 0; c < 16; c++) {
             x.sound(c, 20 + 2 * c, 20 + 2 * c);
@@ -301,7 +309,7 @@ public final class GroundTest {
     }
 
     private static void wrong() {
-        DrownedLand x = new DrownedLand();
+        Land x = new Land();
         Check.due("cell -1", x.cell(-1, 0), -1);
         Check.due("cell 256", x.cell(256, 0), -1);
         Check.due("cell what 11", x.cell(0, 11), -1);

@@ -18,7 +18,7 @@ public final class LawTest {
     }
 
     private static void feeding() {
-        DrownedLand x = new DrownedLand();
+        Land x = new Land();
         for (int i = 1; i <= 35; i++) {
             Check.due("feed " + i, x.feed(0, -1, 1, 2, 3), 20 * i);
         }
@@ -34,7 +34,7 @@ public final class LawTest {
     }
 
     private static void telling() {
-        DrownedLand x = new DrownedLand();
+        Land x = new Land();
         Check.due("no law yet: fault", x.fault(), -1);
         Check.due("law(0) of an empty tape", x.law(0), 0);
         Check.due("law(1) of an empty tape", x.law(1), -2);
@@ -62,7 +62,7 @@ public final class LawTest {
     }
 
     private static void seaByAges() {
-        DrownedLand x = new DrownedLand();
+        Land x = new Land();
         Check.due("sea without", x.sea(0, 0), 0);
         Check.due("sea without", x.sea(99, 1), 0);
         Check.law(x, "sea 50 30 to 40;sea 10 5;sea 50 31 to 41;sea 99 0;sea 70 99 to 99;sea 10 6;");
@@ -83,14 +83,14 @@ public final class LawTest {
     }
 
     private static void fault(String text, int place) {
-        DrownedLand x = new DrownedLand();
+        Land x = new Land();
         Check.due("\"" + text + "\"", Check.law(x, text), -1);
         Check.due("\"" + text + "\" fault", x.fault(), place);
         Check.due("\"" + text + "\" RULES", x.count(0), 0);
     }
 
     private static void good(String text, int rules) {
-        DrownedLand x = new DrownedLand();
+        Land x = new Land();
         Check.due("\"" + text + "\"", Check.law(x, text), rules);
         Check.due("\"" + text + "\" fault", x.fault(), -1);
         Check.due("\"" + text + "\" RULES", x.count(0), rules);
@@ -205,7 +205,7 @@ public final class LawTest {
 
     /** A token goes no further than the first n bytes do. */
     private static void cutBehind(String text, int n, int place) {
-        DrownedLand x = new DrownedLand();
+        Land x = new Land();
         Check.feed(x, Check.bytes(text));
         Check.due(n + " bytes of \"" + text + "\"", x.law(n), -1);
         Check.due(n + " bytes of \"" + text + "\" fault", x.fault(), place);
@@ -237,7 +237,7 @@ public final class LawTest {
     }
 
     private static int sunkWith(String condition, int cell) {
-        DrownedLand x = Check.under("sink 7 if " + condition + ";");
+        Land x = Check.under("sink 7 if " + condition + ";");
         return x.cell(cell, 2);
     }
 
@@ -260,7 +260,7 @@ public final class LawTest {
         Check.due("three or", sunkWith("x=1 or x=2 or x=3", 35), 7);
         Check.due("three and", sunkWith("x=3 and y=2 and x=2", 35), 0);
         Check.due("sink is asked x and y alone", sunkWith("age=0 and height=0 and river=0 and coast=0 and wind=0", 35), 7);
-        DrownedLand x = Check.under("sink 1 if x=9;sink 2 if x=3;sink 3;sink 4;");
+        Land x = Check.under("sink 1 if x=9;sink 2 if x=3;sink 3;sink 4;");
         Check.due("the first that holds", x.cell(35, 2), 2);
         Check.due("the first that holds", x.cell(34, 2), 3);
     }

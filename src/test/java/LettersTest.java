@@ -11,7 +11,7 @@ public final class LettersTest {
     }
 
     private static void telling() {
-        DrownedLand x = new DrownedLand();
+        Land x = new Land();
         Check.due("height -1", x.letter(true, -1, 0, 0), -1);
         Check.due("height 100", x.letter(true, 100, 0, 0), -1);
         Check.due("from behind to", x.letter(true, 5, 7, 6), -1);
@@ -29,7 +29,7 @@ public final class LettersTest {
     }
 
     private static void bounding() {
-        DrownedLand x = new DrownedLand();
+        Land x = new Land();
         Check.due("without LETTERS", x.levels(0, 0), 0);
         Check.due("without LETTERS", x.levels(99, 1), 99);
         x.letter(true, 40, 30, 50);
@@ -55,7 +55,7 @@ public final class LettersTest {
     }
 
     private static void fitting() {
-        DrownedLand x = Check.under("sea 0 10 to 20;sea 50 30 to 40;");
+        Land x = Check.under("sea 0 10 to 20;sea 50 30 to 40;");
         Check.due("none told", x.fits(-1), 0);
         Check.due("none told", x.fits(0), -1);
         x.letter(true, 11, 0, 10);

@@ -23,7 +23,7 @@ public final class PeopleTest {
     }
 
     private static void living() {
-        DrownedLand x = Check.under("sea 50 30;live 6 if x=0 and y=0;live 4 if x=1 and y=0;live 9 if x=2 and y=0;");
+        Land x = Check.under("sea 50 30;live 6 if x=0 and y=0;live 4 if x=1 and y=0;live 9 if x=2 and y=0;");
         x.sound(2, 0, 10);
         Check.due("upper, in lowest terms", x.lived(0, 50, 50, 0), 3);
         Check.due("lower: 10 with CELL 2 at sea", x.lived(0, 50, 50, 1), 5);
@@ -46,7 +46,7 @@ public final class PeopleTest {
 
     /** Each sign at an AGE parts the AGES where the document says. */
     private static void livingByAges() {
-        DrownedLand x = Check.under("live 1 if x=0 and y=0 and age<10;live 2 if x=1 and y=0 and age>89;live 4 if x=2 and y=0 and age=50;"
+        Land x = Check.under("live 1 if x=0 and y=0 and age<10;live 2 if x=1 and y=0 and age>89;live 4 if x=2 and y=0 and age=50;"
                 + "live 1 if x=3 and y=0;");
         Check.due("ten AGES of a hundred and 34", x.lived(0, 0, 99, 1), 134 / 2);
         Check.due("upper", x.lived(0, 0, 99, 0), 5);
@@ -65,7 +65,7 @@ public final class PeopleTest {
     }
 
     private static void learning() {
-        DrownedLand x = new DrownedLand();
+        Land x = new Land();
         Check.due("nothing known", x.learnt(0, 0), 1);
         Check.due("nothing known", x.learnt(15, 1), 2);
         Check.due("a DRY place", x.dry(15, true), 1);
@@ -92,7 +92,7 @@ public final class PeopleTest {
     }
 
     private static void trying() {
-        DrownedLand x = new DrownedLand();
+        Land x = new Land();
         Check.due("without DRY places", x.tried(0), 0);
         Check.due("without DRY places", x.tried(1), 0);
         x.dry(2, true);
@@ -114,7 +114,7 @@ public final class PeopleTest {
     }
 
     private static void leaving() {
-        DrownedLand x = Check.under("catch 3;sea 50 99;");
+        Land x = Check.under("catch 3;sea 50 99;");
         Check.due("KIND of CELL 0", x.asked(0, 0, 8), 0);
         Check.due("a half", x.left(0, 0, 1), 2);
         x.dry(0, true);
@@ -158,7 +158,7 @@ public final class PeopleTest {
     }
 
     private static void carrying() {
-        DrownedLand x = Check.under("carry fished 100;carry cored 20;carry fished 25;live 3 if x=0 and y=0;live 5 if x=1 and y=0 and age=7;");
+        Land x = Check.under("carry fished 100;carry cored 20;carry fished 25;live 3 if x=0 and y=0;live 5 if x=1 and y=0 and age=7;");
         x.find(0, 0, 6, 7);
         x.find(0, 1, 7, 7);
         x.find(0, 2, 7, 7);
@@ -188,7 +188,7 @@ public final class PeopleTest {
     }
 
     private static void leaning() {
-        DrownedLand x = Check.under("sea 50 99;fish 3 if x=7 and y=7;fish 5 if x=8 and y=7;fish 7 if x=7 and y=8;fish 11 if x=8 and y=8;"
+        Land x = Check.under("sea 50 99;fish 3 if x=7 and y=7;fish 5 if x=8 and y=7;fish 7 if x=7 and y=8;fish 11 if x=8 and y=8;"
                 + "fish 1 if age=50 and coast=0 and x=0;");
         Check.due("QUARTER 0", x.lean(0, 0), 3);
         Check.due("QUARTER 1", x.lean(1, 0), 5);
@@ -201,7 +201,7 @@ public final class PeopleTest {
     }
 
     private static void puttingRight() {
-        DrownedLand x = Check.under("fish 1 if x<8;fish 2 if y<8;");
+        Land x = Check.under("fish 1 if x<8;fish 2 if y<8;");
         Check.due("no FINDS", x.right(0, 0, 0), -1);
         x.find(0, 1, 0, 0);
         Check.due("no FINDS fished", x.right(0, 0, 0), -1);
@@ -226,7 +226,7 @@ public final class PeopleTest {
     }
 
     private static void tellingAhead() {
-        DrownedLand x = Check.under("sea 50 20;live 99 if x=5 and y=5;live 8 if x=3;live 2 if x=2 and y=9;");
+        Land x = Check.under("sea 50 20;live 99 if x=5 and y=5;live 8 if x=3;live 2 if x=2 and y=9;");
         x.sound(85, 10, 20);
         Check.due("the most first", x.ahead(0, 0), 85);
         Check.due("then by numbers", x.ahead(0, 1), 3);
@@ -258,7 +258,7 @@ public final class PeopleTest {
 
     /** The draws once more, told by hand for one CELL with all LIVE and a KEEP of 50, a catch of 5. */
     private static void drawing() {
-        DrownedLand x = Check.under("sea 50 99;live 1 if x=1 and y=0;live 3 if x=4 and y=2;keep 50;catch 5;");
+        Land x = Check.under("sea 50 99;live 1 if x=1 and y=0;live 3 if x=4 and y=2;keep 50;catch 5;");
         for (int seed = 0; seed < 40; seed++) {
             for (int camps = 1; camps <= 3; camps++) {
                 Check.due("CELL 36", x.world(seed, 0, camps, 36, 20), hits(seed, camps, false));
@@ -269,7 +269,7 @@ public final class PeopleTest {
             long z = seed * 6364136223846793005L + 1442695040888963407L;
             z = z * 6364136223846793005L + 1442695040888963407L;
             int drawn = (int) ((z >>> 33) % 100);
-            DrownedLand y = Check.under("live 1 if x=1 and y=0;catch 10;keep " + drawn + ";");
+            Land y = Check.under("live 1 if x=1 and y=0;catch 10;keep " + drawn + ";");
             Check.due("KEEP as much as is drawn", y.world(seed, 0, 1, 1, 9), 0);
             Check.law(y, "live 1 if x=1 and y=0;catch 10;keep " + (drawn + 1) + ";");
             Check.due("KEEP one more", y.world(seed, 0, 1, 1, 9), 9);
@@ -310,7 +310,7 @@ public final class PeopleTest {
     }
 
     private static void saying() {
-        DrownedLand x = Check.under("sea 50 99;catch 5;");
+        Land x = Check.under("sea 50 99;catch 5;");
         Check.due("LEFT is a half", x.say(0, 10), 1);
         x.bucket(0, 1);
         Check.due("LEFT is less", x.say(0, 10), 0);
@@ -333,7 +333,7 @@ public final class PeopleTest {
     }
 
     private static void unlikeness() {
-        DrownedLand x = Check.under("sea 50 30;sea 60 99;");
+        Land x = Check.under("sea 50 30;sea 60 99;");
         Check.due("no DRY places", x.unlike(0), -1);
         x.dry(0, true);
         Check.due("all of one KIND", x.unlike(0), 0);

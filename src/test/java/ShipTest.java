@@ -14,7 +14,7 @@ public final class ShipTest {
     }
 
     private static void placing() {
-        DrownedLand x = new DrownedLand();
+        Land x = new Land();
         Check.due("CELL -1", x.place(-1), -1);
         Check.due("CELL 256", x.place(256), -1);
         for (int p = 0; p < 10; p++) {
@@ -30,7 +30,7 @@ public final class ShipTest {
     }
 
     private static void oneWay() {
-        DrownedLand x = Check.under("catch 3;sea 50 99;");
+        Land x = Check.under("catch 3;sea 50 99;");
         Check.due("no PLACES", x.ship(1, 0, 0), -1);
         x.place(5);
         // LEFT a half: 500000 and 500000 * 7 by 10
@@ -54,7 +54,7 @@ public final class ShipTest {
     }
 
     private static void severalWays() {
-        DrownedLand x = Check.under("catch 10;");
+        Land x = Check.under("catch 10;");
         x.place(0);
         x.place(1);
         x.place(2);
@@ -92,7 +92,7 @@ public final class ShipTest {
 
     /** What was worked out for one question must not be answered after a change. */
     private static void changes() {
-        DrownedLand x = Check.under("catch 10;sea 50 99;");
+        Land x = Check.under("catch 10;sea 50 99;");
         x.place(0);
         Check.due("a half", x.ship(1, 0, 0), 500000);
         x.dry(0, true);
@@ -118,7 +118,7 @@ public final class ShipTest {
     }
 
     private static void manyPlaces() {
-        DrownedLand x = Check.under("catch 10;");
+        Land x = Check.under("catch 10;");
         for (int p = 0; p < 10; p++) {
             x.place(p);
         }
@@ -129,7 +129,7 @@ public final class ShipTest {
     }
 
     private static void doubting() {
-        DrownedLand x = Check.under("catch 1;sea 50 30;");
+        Land x = Check.under("catch 1;sea 50 30;");
         Check.due("no PLACES", x.doubt(0), -1);
         x.place(3);
         x.place(4);
@@ -148,7 +148,7 @@ public final class ShipTest {
 
     /** Ratios whose cross products are too much for 64 bits. */
     private static void nearlyAlike() {
-        DrownedLand x = Check.under("catch 1;sea 0 0;");
+        Land x = Check.under("catch 1;sea 0 0;");
         for (int c = 0; c < 256; c++) {
             x.sound(c, 50, 50);
         }
@@ -166,7 +166,7 @@ public final class ShipTest {
         x.place(200);
         Check.due("1 by 42 each with 8 BUCKETS", x.left(0, 0, 1), 43046721L + 41L * 100000000);
         Check.due("alike: the first", x.doubt(0), 0);
-        DrownedLand y = Check.under("catch 1;sea 0 0;");
+        Land y = Check.under("catch 1;sea 0 0;");
         for (int c = 0; c < 256; c++) {
             y.sound(c, 50, 50);
         }

@@ -12,7 +12,7 @@ public final class ToldTest {
     }
 
     private static void finding() {
-        DrownedLand x = new DrownedLand();
+        Land x = new Land();
         Check.due("no FIND", x.found(0, 0), -1);
         Check.due("CELL 256", x.find(256, 0, 0, 0), -1);
         Check.due("CELL -1", x.find(-1, 0, 0, 0), -1);
@@ -41,7 +41,7 @@ public final class ToldTest {
     }
 
     private static void imaging() {
-        DrownedLand x = new DrownedLand();
+        Land x = new Land();
         Check.due("no IMAGE yet", x.restore(0), false);
         Check.due("not as told", x.count(8), 1);
         x.sound(0, 3, 4);
@@ -102,7 +102,7 @@ public final class ToldTest {
 
     /** The LAW, the tape, its FAULT and REFUSED aren't in an IMAGE; an IMAGE is no way into the object. */
     private static void keepingApart() {
-        DrownedLand x = Check.under("catch 4;sea 10 20;");
+        Land x = Check.under("catch 4;sea 10 20;");
         x.image();
         x.sound(300, 0, 0);
         Check.law(x, "catch 5;sea 10 30;live;");
@@ -126,7 +126,7 @@ public final class ToldTest {
     }
 
     private static void counting() {
-        DrownedLand x = Check.under("catch 4;carry fished 10;carry cored 20;carry grabbed 30;carry cored 25;live 7;");
+        Land x = Check.under("catch 4;carry fished 10;carry cored 20;carry grabbed 30;carry cored 25;live 7;");
         Check.due("RULES", x.count(0), 6);
         Check.due("catch", x.count(11), 4);
         Check.due("fished", x.count(12), 10);

@@ -12,8 +12,8 @@ public final class WaveTest {
     }
 
     /** The west column at sea from AGE 10 on; all other LAND 20 high. */
-    private static DrownedLand coastland() {
-        DrownedLand x = Check.under("sea 10 30;");
+    private static Land coastland() {
+        Land x = Check.under("sea 10 30;");
         for (int c = 0; c < 256; c++) {
             x.sound(c, c % 16 == 0 ? 30 : 50, c % 16 == 0 ? 30 : 50);
         }
@@ -21,7 +21,7 @@ public final class WaveTest {
     }
 
     private static void going() {
-        DrownedLand x = coastland();
+        Land x = coastland();
         Check.due("height 20, coast 1", x.gone(1, 10, 21, 0), 1);
         Check.due("as high as it is", x.gone(1, 10, 20, 0), 0);
         Check.due("a DROP of 5", x.gone(1, 10, 26, 5), 1);
@@ -43,7 +43,7 @@ public final class WaveTest {
     }
 
     private static void resting() {
-        DrownedLand x = coastland();
+        Land x = coastland();
         Check.due("two columns are GONE", x.rest(10, 31, 5, 2), 32);
         Check.due("the others stay", x.rest(10, 31, 5, 0), 240 - 32);
         Check.due("in one", x.rest(10, 31, 5, 1), 1);
@@ -65,7 +65,7 @@ public final class WaveTest {
     }
 
     private static void tellingMud() {
-        DrownedLand x = new DrownedLand();
+        Land x = new Land();
         Check.due("CELL -1", x.mud(-1, true), -1);
         Check.due("CELL 256", x.mud(256, true), -1);
         Check.due("not as told", x.count(8), 2);
@@ -84,7 +84,7 @@ public final class WaveTest {
     }
 
     private static void measuring() {
-        DrownedLand x = coastland();
+        Land x = coastland();
         Check.due("no MUD", x.height(10, 5, 0), 1);
         Check.due("no MUD", x.height(10, 5, 1), 99);
         Check.due("no MUD", x.height(10, 5, 2), 99);

@@ -36,11 +36,17 @@ final class Check {
 
     /** Feeds a text, filled up with blanks to whole feeds. */
     static void feed(Land x, byte[] text) {
-        byte[] whole = Arrays.copyOf(text, (text.length + 19) / 20 * 20);
-        Arrays.fill(whole, text.length, whole.length, (byte) 32);
+        byte[] whole = filled(text);
         for (int i = 0; i < whole.length; i += 20) {
             x.feed(four(whole, i), four(whole, i + 4), four(whole, i + 8), four(whole, i + 12), four(whole, i + 16));
         }
+    }
+
+    /** A text filled up with blanks to whole feeds. */
+    static byte[] filled(byte[] text) {
+        byte[] whole = Arrays.copyOf(text, (text.length + 19) / 20 * 20);
+        Arrays.fill(whole, text.length, whole.length, (byte) 32);
+        return whole;
     }
 
     static int four(byte[] bytes, int i) {

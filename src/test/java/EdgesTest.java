@@ -11,6 +11,8 @@ public final class EdgesTest {
         EdgesOfPeople.tryAll();
         EdgesOfWave.tryAll();
         EdgesOfLetters.tryAll();
+        EdgesOfArguments.tryAll();
+        EdgesOfRefusals.tryAll();
         Edge.end();
         Edge.checkSentences(Path.of(System.getProperty("drowned.doc", "../shared/DOC.md")));
         Check.end("EdgesTest");

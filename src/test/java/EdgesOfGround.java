@@ -292,6 +292,14 @@ final class EdgesOfGround {
         // CELL 1 and 16 lie beside 0 and 17, both 98: to the least number
         Edge.due("two of them go elsewhere", x.cell(17, 4), 3);
         Edge.due("there", x.cell(0, 4), 3);
+        Land y = new Land();
+        middle(y, 100, 100);
+        Edge.due("where the one highest CELL goes", y.cell(100, 3), 84);
+        Edge.due("its water is counted there", y.cell(84, 4), 2);
+        Edge.due("and its END", y.ends(84, 1), 2);
+        middle(y, 255, 101);
+        Edge.due("the water of the highest of two", y.cell(239, 4), 2);
+        Edge.due("the water of the other", y.cell(84, 4), 2);
         middle(x, 33, 97);
         Edge.due("17 goes to 33 now", x.cell(17, 3), 33);
         Edge.due("one comes through 17", x.cell(17, 4), 2);

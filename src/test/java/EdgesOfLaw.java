@@ -8,6 +8,7 @@ final class EdgesOfLaw {
     static void tryAll() {
         fortyRules();
         levels();
+        withoutIf();
         hows();
         topsOfN();
         whatNSets();
@@ -26,6 +27,9 @@ final class EdgesOfLaw {
         numbersThatAreNotSo();
         moreMustCome();
         lastTold();
+        lastToldOfSea();
+        lastToldOfLong();
+        askedOfAll();
         sea();
         sunkIsAsked();
         firstThatHolds();
@@ -85,6 +89,23 @@ final class EdgesOfLaw {
         Edge.bad("sea 0 99 to 98;", 12);
         Edge.good("sea 0 99 to 99;", 1);
         Edge.bad("sea 0 1 to 0;", 11);
+    }
+
+    private static void withoutIf() {
+        Edge.terms(1, "\"sink\" N [\"if\" ANY]");
+        String[] kinds = {"sink", "live", "fish", "keep"};
+        for (int i = 0; i < kinds.length; i++) {
+            String kind = kinds[i];
+            Land x = Check.under(kind + " 1 if x=9;" + kind + " 2;" + kind + " 3;");
+            Edge.due(kind + " where the first holds", i == 0 ? x.cell(9, 2) : x.asked(9, 0, 4 + i), 1);
+            Edge.due(kind + " where only those without \"if\" hold", i == 0 ? x.cell(8, 2) : x.asked(8, 0, 4 + i), 2);
+            x = Check.under(kind + " 2;" + kind + " 1 if x=9;");
+            Edge.due(kind + " without \"if\" ahead", i == 0 ? x.cell(9, 2) : x.asked(9, 0, 4 + i), 2);
+            Edge.bad(kind + " 2 x=9;", 7);
+            Edge.bad(kind + " 2 if;", 9);
+            Edge.bad(kind + " if x=9;", 5);
+            Edge.bad(kind + " 2 if x=9 if x=9;", 14);
+        }
     }
 
     private static void hows() {
@@ -276,6 +297,12 @@ final class EdgesOfLaw {
             Edge.bad("live" + c + " 1;", 4);
             Edge.bad("li" + c + "ve 1;", 0);
         }
+        for (char c : new char[] {'a', 'b', 'y', 'z'}) {
+            Edge.bad("live" + c + " 1;", 0);
+            Edge.bad(c + "live 1;", 0);
+            Edge.bad("catch 1;" + c, 8);
+            Edge.bad("catch 1" + c + ";", 7);
+        }
         // one step below 0 and above 9
         for (char c : new char[] {'/', ':', '.', ',', '0' + 128}) {
             Edge.bad("catch " + c + ";", 6);
@@ -458,6 +485,69 @@ final class EdgesOfLaw {
         Edge.due("\"carry\"", x.count(13), 0);
         Edge.due("one without RULES", x.law(0), 0);
         Edge.due("FISH then", x.asked(0, 0, 6), 0);
+        // none of those told ahead of it comes back
+        for (int again = 0; again < 3; again++) {
+            Edge.due("SEA then", x.sea(10, 0), 0);
+            Edge.due("SUNK then", x.cell(0, 2), 0);
+            Edge.due("LIVE then", x.asked(0, 0, 5), 0);
+            Edge.due("\"catch\" then", x.count(11), 0);
+            Edge.due("\"carry\" then", x.count(13), 0);
+            Edge.due("RULES then", x.count(0), 0);
+            Edge.due("one more without RULES", x.law(0), 0);
+        }
+    }
+
+    private static void lastToldOfSea() {
+        Edge.terms(1, "The one told last holds; at first one without RULES.");
+        for (int age : new int[] {0, 1, 98, 99}) {
+            Land x = Check.under("sea " + age + " 20 to 30;");
+            for (int again = 0; again < 3; again++) {
+                Edge.due("SEA of the first, " + again, x.sea(age, 0), again == 0 ? 20 : 0);
+                Edge.due("SEA of the first, " + again, x.sea(99, 1), again == 0 ? 30 : 0);
+                x.law(0);
+            }
+            Check.law(x, "sea 50 7;");
+            Edge.due("SEA of the last at AGE 49", x.sea(49, 1), 0);
+            Edge.due("SEA of the last at AGE 99", x.sea(99, 1), 7);
+        }
+    }
+
+    /** LAWS as long as the tape is, one behind the other: each holds to its last word. */
+    private static void lastToldOfLong() {
+        Edge.terms(1, "The one told last holds; at first one without RULES.");
+        Land x = new Land();
+        for (int i = 0; i < 12; i++) {
+            StringBuilder law = new StringBuilder("sink " + (i + 1) + " if ");
+            while (law.length() < 680) {
+                law.append("x>9 or ");
+            }
+            law.append("x=").append(i % 9).append(';');
+            Edge.due("LAW " + i, Check.law(x, law.toString()), 1);
+            Edge.due("its last word holds", x.cell(i % 9, 2), i + 1);
+            Edge.due("its last word doesn't", x.cell((i + 1) % 9, 2), 0);
+            Edge.due("its first words hold", x.cell(10, 2), i + 1);
+        }
+    }
+
+    /** CELL 100 has x 4, y 6, and at AGE 50 a height of 39, a river of 4, a coast of 2 and a wind of 8. */
+    private static void askedOfAll() {
+        Edge.terms(1, "LIVE, FISH, KEEP of a CELL at an AGE: N of the first that holds (asked all), else 0, 0, 100.");
+        String[] words = {"x", "y", "age", "height", "river", "coast", "wind"};
+        int[] values = {4, 6, 50, 39, 4, 2, 8};
+        for (int i = 0; i < words.length; i++) {
+            for (int value = values[i] - 1; value <= values[i] + 1; value++) {
+                for (char sign : new char[] {'<', '=', '>'}) {
+                    String condition = words[i] + sign + value;
+                    boolean holds = sign == '<' ? values[i] < value : sign == '>' ? values[i] > value : values[i] == value;
+                    Land x = Check.under("sea 50 10;live 1 if " + condition + ";fish 1 if " + condition + ";keep 1 if " + condition + ";");
+                    x.sound(100, 49, 49);
+                    x.sound(102, 0, 0);
+                    Edge.due("LIVE if " + condition, x.asked(100, 50, 5), holds ? 1 : 0);
+                    Edge.due("FISH if " + condition, x.asked(100, 50, 6), holds ? 1 : 0);
+                    Edge.due("KEEP if " + condition, x.asked(100, 50, 7), holds ? 1 : 100);
+                }
+            }
+        }
     }
 
     private static void sea() {

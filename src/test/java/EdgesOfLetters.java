@@ -15,6 +15,7 @@ final class EdgesOfLetters {
         fits();
         images();
         imageHolds();
+        imageHoldsRows();
         imageHoldsNot();
         imageOfAll();
         restoreWrongly();
@@ -274,6 +275,45 @@ final class EdgesOfLetters {
             x.bucket(6, 5);
             x.mud(8, true);
             x.mud(99, false);
+        }
+    }
+
+    /** What is told behind a restore() takes the place of what was told behind the IMAGE, and is gone again. */
+    private static void imageHoldsRows() {
+        Edge.terms(3, "IMAGES, up to 3: all but the LAW, the tape, its FAULT, REFUSED.");
+        Land x = Check.under("catch 10;sea 0 20;");
+        x.image();
+        x.find(7, 1, 8, 9);
+        x.find(17, 2, 18, 19);
+        x.place(27);
+        x.place(37);
+        x.letter(true, 40, 50, 60);
+        x.letter(false, 20, 30, 40);
+        x.image();
+        for (int i = 0; i < 2; i++) {
+            Edge.due("restore(0)", x.restore(0), true);
+            x.find(99, 0, 0, 0);
+            x.find(98, 0, 1, 1);
+            x.place(97);
+            x.place(96);
+            x.letter(false, 77, 1, 2);
+            x.letter(true, 88, 3, 4);
+            Edge.due("the FIND told behind it", x.found(0, 0), 99);
+            Edge.due("the PLACE told behind it", x.cell(96, 9), 1);
+            Edge.due("LETTERS told behind it, mud", x.levels(50, 0), 77);
+            Edge.due("restore(1)", x.restore(1), true);
+            int[] due = {7, 1, 8, 9, 17, 2, 18, 19};
+            for (int k = 0; k < 8; k++) {
+                Edge.due("found(" + k / 4 + ", " + k % 4 + ")", x.found(k / 4, k % 4), due[k]);
+            }
+            Edge.due("a PLACE", x.cell(27, 9), 1);
+            Edge.due("a PLACE", x.cell(37, 9), 1);
+            Edge.due("no PLACE", x.cell(97, 9), 0);
+            Edge.due("no PLACE", x.cell(96, 9), 0);
+            levels(x, "by a tree of 40 from 50, mud of 20 up to 40", 50, 20, 39);
+            levels(x, "by a tree of 40 from 50, mud of 20 up to 40", 51, 20, 99);
+            levels(x, "by a tree of 40 from 50, mud of 20 up to 40", 39, 0, 39);
+            Edge.due("LETTERS that fit", x.fits(-1), 2);
         }
     }
 

@@ -11,6 +11,7 @@ final class EdgesOfPeople {
         livedByAges();
         livedOnLand();
         livedWrongly();
+        agesAsked();
         dry();
         dryFull();
         learnt();
@@ -120,6 +121,28 @@ final class EdgesOfPeople {
         }
         Edge.due("lived(0, 0, 0, -1)", x.lived(0, 0, 0, -1), -1);
         Edge.due("lived(0, 0, 0, 2)", x.lived(0, 0, 0, 2), -1);
+    }
+
+    /** Each sign beside AGES 0 and 99: all that hangs on LIVE tells the same AGES apart. */
+    private static void agesAsked() {
+        Edge.terms(1, "LIVE, FISH, KEEP of a CELL at an AGE: N of the first that holds (asked all), else 0, 0, 100.");
+        for (int value : new int[] {0, 1, 2, 50, 98, 99, 100, 9999}) {
+            for (char sign : new char[] {'<', '=', '>'}) {
+                String condition = "age" + sign + value;
+                Land x = Check.under("live 7 if " + condition + " and x=3 and y=0;carry fished 100;");
+                for (int age : new int[] {0, 1, 2, 3, 49, 50, 51, 97, 98, 99}) {
+                    boolean holds = sign == '<' ? age < value : sign == '>' ? age > value : age == value;
+                    String at = "live if " + condition + " at AGE " + age;
+                    int find = x.find(3, 0, age, age);
+                    Edge.due(at + ", asked", x.asked(3, age, 5), holds ? 7 : 0);
+                    Edge.due(at + ", LIVED", x.lived(3, age, age, 0), holds ? 1 : -1);
+                    Edge.due(at + ", CARRIED", x.carried(find, 0), holds ? 1 : 0);
+                    Edge.due(at + ", AHEAD", x.ahead(age, 0), holds ? 3 : 0);
+                    Edge.due(at + ", HELD", x.held(age, 1, 0), holds ? find + 1 : 0);
+                    Edge.due(at + ", WORLD", x.world(5, age, 1, 3, 0), holds ? 0 : -1);
+                }
+            }
+        }
     }
 
     private static void dry() {
@@ -710,6 +733,14 @@ final class EdgesOfPeople {
             Edge.due("KEEP 100, seed " + seed, always.world(seed, 0, 1, 3, 1), 1);
             Edge.due("KEEP at that AGE, seed " + seed, then.world(seed, 50, 1, 3, 1), 0);
             Edge.due("KEEP at another AGE, seed " + seed, then.world(seed, 51, 1, 3, 1), 1);
+        }
+        Land without = Check.under("catch 10;live 1 if x=3 and y=0;");
+        int greatest = 0;
+        for (int seed = 0; greatest < 3; seed++) {
+            if (draw(seed, 2, 100) == 99) {
+                greatest++;
+                Edge.due("without \"keep\", 99 drawn, seed " + seed, without.world(seed, 0, 1, 3, 1), 1);
+            }
         }
         Edge.terms(3, "then for each BUCKET in a told CELL a draw modulo 10: it's a hit, if below \"catch\" and some CAMP is KEPT there.");
         Land x = Check.under("catch 10;live 1 if x=3 and y=0;keep 50;");

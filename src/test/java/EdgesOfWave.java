@@ -23,8 +23,10 @@ final class EdgesOfWave {
         odds();
         oddsInOrder();
         firstOfSeveral();
+        shipAgain();
         shipWrongly();
         doubt();
+        doubtOfMany();
         doubtWrongly();
     }
 
@@ -475,6 +477,39 @@ final class EdgesOfWave {
         way(x, 1, 0, 1, 0, 0, 0, 0, 0, 0, 0, 0);
     }
 
+    /** What was answered ahead of a telling isn't answered behind it. */
+    private static void shipAgain() {
+        Edge.promise(25, "The way to lay n BUCKETS: its ODDS (what 0), 10 + p how many at PLACE p.");
+        Land x = Check.under("catch 10;sea 50 49 to 50;");
+        x.place(0);
+        Edge.due("LEFT 1 by 2", x.ship(1, 0, 0), 500000);
+        Edge.due("another AGE: at sea", x.ship(1, 50, 0), 0);
+        Edge.due("the AGE ahead of it", x.ship(1, 49, 0), 500000);
+        x.dry(0, true);
+        Edge.due("LEFT 2 by 3 after dry", x.ship(1, 49, 0), 666666);
+        x.place(1);
+        x.bucket(0, 1);
+        Edge.due("none LEFT at the first after bucket", x.ship(1, 49, 10), 0);
+        Edge.due("LEFT 2 by 3 at the second after place", x.ship(1, 49, 11), 1);
+        x.image();
+        x.sound(17, 0, 0);
+        // CELLS 0 and 1 are nearer than three steps to the sea now: of KIND 2 without DRY places
+        Edge.due("LEFT 1 by 2 after sound", x.ship(1, 49, 0), 500000);
+        x.restore(0);
+        Edge.due("LEFT 2 by 3 after restore", x.ship(1, 49, 0), 666666);
+        Check.law(x, "catch 5;");
+        // 666666 and 666666 by 2 at the second, 500000 and less at the first
+        Edge.due("\"catch\" 5 after law", x.ship(1, 49, 0), 333333);
+        Check.law(x, "catch 0;");
+        Edge.due("\"catch\" 0 after law", x.ship(1, 49, 0), 0);
+        Edge.due("all at the first then", x.ship(1, 49, 10), 1);
+        Edge.due("another n", x.ship(2, 49, 10), 2);
+        Check.law(x, "catch 10;");
+        x.place(2);
+        Edge.due("after place once more", x.ship(2, 49, 12), 1);
+        Edge.due("another n", x.ship(1, 49, 12), 0);
+    }
+
     private static void shipWrongly() {
         Edge.promise(25, "The way to lay n BUCKETS: its ODDS (what 0), 10 + p how many at PLACE p. NONE: none such, no PLACES.");
         Land x = Check.under("catch 5;");
@@ -543,6 +578,34 @@ final class EdgesOfWave {
         Edge.due("and a half", x.doubt(0), 2);
         x.place(102);
         Edge.due("and one more half", x.doubt(0), 2);
+    }
+
+    /** LEFT of so many CAMPS and 1 by so many DRY places and 2, at each of two PLACES of other KINDS. */
+    private static void doubtOfMany() {
+        Edge.terms(3, "DOUBT: the PLACE with LEFT nearest to a half (of several the first).");
+        for (int all = 0; all <= 6; all++) {
+            for (int camps = 0; camps <= all; camps++) {
+                for (int allOther = 0; allOther <= 6; allOther++) {
+                    for (int campsOther = 0; campsOther <= allOther; campsOther++) {
+                        Land x = Check.under("sea 0 10;");
+                        x.sound(0, 0, 0);
+                        for (int i = 0; i < all; i++) {
+                            x.dry(2, i < camps);
+                        }
+                        for (int i = 0; i < allOther; i++) {
+                            x.dry(0, i < campsOther);
+                        }
+                        x.place(1);
+                        x.place(100);
+                        // how far twice LEFT is from 1, each times the other's lower number
+                        int off = Math.abs(2 * (camps + 1) - all - 2) * (allOther + 2);
+                        int offOther = Math.abs(2 * (campsOther + 1) - allOther - 2) * (all + 2);
+                        Edge.due("LEFT " + (camps + 1) + " by " + (all + 2) + " and " + (campsOther + 1) + " by " + (allOther + 2),
+                                x.doubt(0), offOther < off ? 1 : 0);
+                    }
+                }
+            }
+        }
     }
 
     private static void doubtWrongly() {

@@ -97,6 +97,22 @@ final class Edge {
             Check.due("promise " + p + " has a sentence tried", quoted[p] > 0, true);
         }
         System.out.println(SENTENCES.size() + " sentences of the document tried");
+        if (Boolean.getBoolean("drowned.untried")) {
+            untried(sections);
+        }
+    }
+
+    /** Tells what of the Terms and promises stands in no sentence that is tried, to be looked at by eye. */
+    private static void untried(Map<String, String> sections) {
+        sections.forEach((name, words) -> {
+            String rest = words;
+            for (String each : SENTENCES.keySet()) {
+                if (each.startsWith(name + "|")) {
+                    rest = rest.replace(each.substring(each.indexOf('|') + 1), "..");
+                }
+            }
+            System.out.println(name + ": " + rest);
+        });
     }
 
     /** The document's text by its sections: "What it is", "Terms 1", "Promise 1" and so on. */

@@ -8,7 +8,9 @@ final class EdgesOfGround {
 
     static void tryAll() {
         newObject();
+        constants();
         calls();
+        ages();
         beside();
         round();
         heights();
@@ -59,6 +61,13 @@ final class EdgesOfGround {
         }
     }
 
+    private static void constants() {
+        // the line stands at the end of "Terms" 3
+        Edge.terms(3, "The constants: `NONE = -1`: There is none.");
+        Edge.due("NONE", DrownedLand.NONE, -1);
+        Edge.due("cell(0, 3): it FLOWS nowhere", new Land().cell(0, 3), DrownedLand.NONE);
+    }
+
     private static void calls() {
         Edge.head("An object is used for at most 512 calls after it has been made");
         Land x = new Land();
@@ -67,6 +76,20 @@ final class EdgesOfGround {
         }
         Edge.due("the 511th call", x.cell(255, 1), 8);
         Edge.due("the 512th call", x.count(8), 255);
+    }
+
+    private static void ages() {
+        Edge.terms(1, "AGES 0 to 99, the later the greater.");
+        Land x = Check.under("sea 0 1;sea 99 2;");
+        Edge.due("sea(-1, 0)", x.sea(-1, 0), -1);
+        Edge.due("sea(0, 0)", x.sea(0, 0), 1);
+        Edge.due("sea(1, 0)", x.sea(1, 0), 1);
+        Edge.due("sea(98, 0)", x.sea(98, 0), 1);
+        Edge.due("sea(99, 0)", x.sea(99, 0), 2);
+        Edge.due("sea(100, 0)", x.sea(100, 0), -1);
+        Edge.bad("sea 100 1;", 4);
+        Edge.due("find(0, 0, 99, 98)", x.find(0, 0, 99, 98), -1);
+        Edge.due("find(0, 0, 98, 99)", x.find(0, 0, 98, 99), 0);
     }
 
     private static void beside() {

@@ -56,6 +56,10 @@ final class EdgesOfLaw {
         Edge.bad(rules(41), 320);
         Edge.bad(";", 0);
         Edge.bad("catch 1;;", 8);
+        String last = "sink 1 if x=9;".repeat(39) + "sink 7;";
+        Land x = Check.under(last);
+        Edge.due("the 40th RULE holds", x.cell(0, 2), 7);
+        Edge.due("the first RULE holds", x.cell(9, 2), 1);
         Edge.terms(1, "the 41st RULE: where it begins");
         Edge.good(rules(40) + " \n ", 40);
         Edge.bad(rules(40) + " \n catch 1;", 323);
@@ -92,7 +96,8 @@ final class EdgesOfLaw {
     }
 
     private static void withoutIf() {
-        Edge.terms(1, "\"sink\" N [\"if\" ANY]");
+        Edge.terms(1, "| \"sink\" N [\"if\" ANY] | \"live\" N [\"if\" ANY] | \"fish\" N [\"if\" ANY] | \"keep\" N [\"if\" ANY] | "
+                + "\"carry\" HOW N | \"catch\" N.");
         String[] kinds = {"sink", "live", "fish", "keep"};
         for (int i = 0; i < kinds.length; i++) {
             String kind = kinds[i];
@@ -106,6 +111,8 @@ final class EdgesOfLaw {
             Edge.bad(kind + " if x=9;", 5);
             Edge.bad(kind + " 2 if x=9 if x=9;", 14);
         }
+        Edge.bad("catch 2 if x=9;", 8);
+        Edge.bad("carry cored 2 if x=9;", 14);
     }
 
     private static void hows() {

@@ -326,17 +326,21 @@ final class EdgesOfPeople {
         Edge.due("bucket(5, 9) on 8", x.bucket(5, 9), -1);
         Edge.due("REFUSED for room", x.count(9), 3);
         Edge.due("REFUSED not as told", x.count(8), 5);
+        Edge.promise(15, "BUCKETS with nothing in a CELL: how many there.");
+        Edge.due("bucket(8, 2)", x.bucket(8, 2), 2);
+        Edge.due("bucket(8, 3) on 2", x.bucket(8, 3), 5);
+        Edge.due("of another CELL", x.bucket(10, 1), 1);
         Edge.terms(2, "BUCKETS, up to 8 in a CELL: with nothing.");
         Edge.due("bucket(6, 8)", x.bucket(6, 8), 8);
         Edge.due("bucket(7, 7)", x.bucket(7, 7), 7);
-        Edge.due("in all", x.count(3), 23);
+        Edge.due("in all", x.count(3), 29);
         Edge.due("bucket(-1, 1)", x.bucket(-1, 1), -1);
         Edge.due("bucket(0, 1)", x.bucket(0, 1), 1);
         Edge.due("bucket(255, 1)", x.bucket(255, 1), 1);
         Edge.due("bucket(256, 1)", x.bucket(256, 1), -1);
         Edge.due("bucket(256, 9)", x.bucket(256, 9), -1);
         Edge.due("REFUSED not as told", x.count(8), 8);
-        Edge.due("in all", x.count(3), 25);
+        Edge.due("in all", x.count(3), 31);
     }
 
     private static void left(Land x, String with, int cell, int age, long upper, long lower) {

@@ -505,7 +505,9 @@ final class EdgesOfWave {
         Edge.due("all at the first then", x.ship(1, 49, 10), 1);
         Edge.due("another n", x.ship(2, 49, 10), 2);
         Check.law(x, "catch 10;");
+        Edge.due("\"catch\" 10 after law", x.ship(2, 49, 0), 666666);
         x.place(2);
+        Edge.due("after place once more", x.ship(2, 49, 0), 888889);
         Edge.due("after place once more", x.ship(2, 49, 12), 1);
         Edge.due("another n", x.ship(1, 49, 12), 0);
     }

@@ -30,6 +30,7 @@ final class EdgesOfPeople {
         found();
         carriedByCarry();
         carriedByAges();
+        carriedBySea();
         carriedOfNobody();
         leaning();
         right();
@@ -526,6 +527,25 @@ final class EdgesOfPeople {
         carried(x, "of AGES 49 to 51: 500 by 500 and 12800", 2, 5, 133);
         carried(x, "of AGES up to 48", 3, 0, 1);
         carried(x, "of AGES from 51", 4, 1, 1);
+    }
+
+    /** CELLS 0 and 1, 20 and 40 in half yards, are at sea from AGE 50 and from AGE 60. */
+    private static void carriedBySea() {
+        Edge.terms(2, "CARRIED of one: \"carry\" of its HOW times the LIVE of all CELLS of LAND in its AGES together, "
+                + "by that and (100 less \"carry\") times 256 times that of its own CELL.");
+        Land x = Check.under("carry fished 50;live 1 if x=0 and y=0;live 3 if x=1 and y=0;sea 50 10;sea 60 20;");
+        x.sound(0, 10, 10);
+        x.sound(1, 20, 20);
+        x.find(0, 0, 49, 49);
+        x.find(0, 0, 50, 50);
+        x.find(0, 0, 49, 50);
+        x.find(0, 0, 59, 60);
+        x.find(0, 0, 60, 99);
+        carried(x, "LAND the AGE before: 200 by 200 and 12800", 0, 1, 65);
+        carried(x, "its own CELL is at sea, another isn't", 1, 1, 1);
+        carried(x, "LAND in the first of two AGES: 350 by 350 and 12800", 2, 7, 263);
+        carried(x, "the other CELL in the first of two AGES", 3, 1, 1);
+        carried(x, "both are at sea", 4, 0, 1);
     }
 
     private static void carriedOfNobody() {
